@@ -190,6 +190,10 @@ public final class PromisesTest {
         finds(g, "too many of one", g.copy(0, 4, 0, 0, 2), BEYOND);
         finds(g, "by far too many", g.copy(0, 1, 0, 1, MAX), BEYOND);
         finds(g, "far away", g.copy(0, MAX, 0, 0, 1), BEYOND);
+        g.row(4, 0);
+        due("none of an empty ROW", g.copy(4, 0, 0, 5, 0), 1);
+        due("none to an empty ROW", g.copy(0, 5, 4, 0, 0), 1);
+        finds(g, "one of an empty ROW", g.copy(4, 0, 0, 0, 1), BEYOND);
         finds(g, "NOTHING ahead of BEYOND", g.copy(0, 99, 2, 0, 1), NOTHING);
         finds(g, "NOTHING, from", g.copy(2, 0, 0, 0, 0), NOTHING);
         finds(g, "SIZE ahead of NOTHING", g.copy(2, 0, 3, 0, -1), SIZE);
@@ -420,6 +424,8 @@ public final class PromisesTest {
         due("a GOOSE to the next", g.may(1, 0), 0b0100);
         due("the last GOOSE to 0", g.may(3, 0), 0b0001);
         due("a HAND to all others", g.may(0, 0), 0b1110);
+        g = in("h1 m00 g00 m00");
+        due("a GOOSE to the last", g.may(1, 0), 0b100);
         g = in("h1 g00 t00 g00 e00 m0- m0-");
         due("a GREAT one takes it from no GOOSE", g.may(0, 0), 0);
         due("an ELDER takes it from a GOOSE", g.may(2, 0), 0b1000);
@@ -595,6 +601,8 @@ public final class PromisesTest {
         finds(g, "judge(0)", g.judge(0), NOTHING);
         fill(g, 0, 0, 1, 2);
         finds(g, "too few", g.judge(0), SIZE);
+        g.row(0, 0);
+        finds(g, "an empty ROW", g.judge(0), SIZE);
         fill(g, 0, 9, 1, 2, 3, 0);
         finds(g, "SIZE ahead of UNLIKE", g.judge(0), SIZE);
         fill(g, 0, 0, 0, 2, 4);
@@ -751,6 +759,8 @@ public final class PromisesTest {
         due("no TOWN", new GuineaHours().fewest(0), NONE);
         GuineaHours other = in("h2 m00- m001 m0-1 m022 m022");
         tells(other, "fewer, though greater bits", other.fewest(0), 2, 24);
+        other = in("h2 m00- m001 m0-1");
+        tells(other, "all together", other.fewest(0), 3, 7);
     }
 
     private static void shares() {
@@ -772,6 +782,8 @@ public final class PromisesTest {
         finds(g, "numbers that wrap around to 9", g.leaves(0, 0), UNLIKE);
         fill(g, 0, 5, 4);
         finds(g, "too few", g.leaves(0, 0), SIZE);
+        g.row(0, 0);
+        finds(g, "an empty ROW", g.leaves(0, 0), SIZE);
         fill(g, 0, 50, 4, 0, 0);
         finds(g, "SIZE ahead of UNLIKE", g.leaves(0, 0), SIZE);
         due("leaves(0, 3)", g.leaves(0, 3), BAD);
@@ -803,9 +815,11 @@ public final class PromisesTest {
         due("count(4)", g.count(4), 8);
         promise = 38;
         due("forget(9)", g.forget(9), BAD);
+        due("none from number 8 on", g.forget(8), 0);
         due("forget(-1)", g.forget(-1), BAD);
         due("forget(7)", g.forget(7), 1);
         due("forget(2)", g.forget(2), 5);
+        due("a number above theirs", g.forget(3), BAD);
         due("count(4)", g.count(4), 2);
         tells(g, "those ahead stay", g.fits(), 1, 1);
         due("forget(0)", g.forget(0), 2);
@@ -914,6 +928,9 @@ public final class PromisesTest {
         fraction(g, "in the last HOUR", g.send(0, 1, 1), 1, 1, 1);
         g = in("h2 m000 m00- m000");
         fraction(g, "not the first", g.send(0, 0, 0), 2, 1, 1);
+        g = in("h2 m00- m000 m001 m0-0 m0-1 m0-1");
+        fraction(g, "to the likelier one", g.send(0, 0, 3), 1, 1, 1);
+        fraction(g, "to the likelier one, not the first", g.send(0, 0, 5), 2, 1, 2);
     }
 
     private static void twoGuineas() {
@@ -933,6 +950,11 @@ public final class PromisesTest {
         g = in("h1 m0- m0- m00 m00");
         due("both nowhere", g.two(0, 1), 0);
         due("one nowhere", g.two(0, 2), 0);
+        g = in("h2 m000 m001 m002 m013 m013 m0-0 m0-2");
+        due("to the one who can go on", g.two(1, 3), 2);
+        g = in("h2 m00- m00- m013 m013 m000 m000");
+        due("each has to go on", g.two(0, 2), 2);
+        due("one of them can't", in("h2 m00- m00- m013 m013").two(0, 2), 1);
         g = in("h3 m0002 m0002 m0113 m0113");
         due("to MIDNIGHT", g.two(3, 0), 3);
         due("no TOWN", new GuineaHours().two(0, 1), BAD);
