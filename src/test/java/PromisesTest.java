@@ -1,19 +1,5 @@
 /** For each promise of the document: ordinary inputs, the edges that it names, wrong inputs. */
-public final class PromisesTest {
-    private static final int BAD = -1, FULL = -2, FINDING = -3, STATE = -4, NONE = -9;
-    private static final int NOTHING = 1, BEYOND = 2, UNLIKE = 3, NOUGHT = 4, SIZE = 5;
-    private static final int MIN = Integer.MIN_VALUE, MAX = Integer.MAX_VALUE;
-    /** A HAND and a PROUD one who stay together, an ELDER who is nowhere in HOUR 1. */
-    private static final String SMALL = "h2 m100 p100 e20-";
-    /** One of each KIND and one HAND more. */
-    private static final String KINDS = "h4 m10012 p20011 s00122 e3011- g10112 t2102- m40110";
-    /** Four HANDS who are always together. */
-    private static final String CROWD = "h3 m0000 m1000 m2000 m3000";
-
-    private static int wrong = 0;
-    private static int asked = 0;
-    private static int promise = 0;
-
+public final class PromisesTest extends Check {
     public static void main(String[] args) {
         newObject();
         rows();
@@ -47,68 +33,11 @@ public final class PromisesTest {
         counts();
         digests();
         unbrokenByAnything();
-        System.out.println(asked + " answers looked at, " + wrong + " not as due");
-        if (wrong != 0) {
-            System.exit(1);
-        }
-    }
-
-    private static void due(String call, long got, long want) {
-        asked++;
-        if (got != want) {
-            wrong++;
-            System.out.println("promise " + promise + ": " + call + " answered " + got + ", due is " + want);
-        }
-    }
-
-    /** A FINDING is due, and this one. */
-    private static void finds(GuineaHours g, String call, long got, int want) {
-        due(call, got, FINDING);
-        due(call + ", finding()", g.finding(), want);
-    }
-
-    /** A call that tells by asked(). */
-    private static void tells(GuineaHours g, String call, long got, long want, long wantAsked) {
-        due(call, got, want);
-        due(call + ", asked()", g.asked(), wantAsked);
-    }
-
-    private static void fraction(GuineaHours g, String call, long got, long want, long upper, long lower) {
-        due(call, got, want);
-        due(call + ", upper()", g.upper(), upper);
-        due(call + ", lower()", g.lower(), lower);
-    }
-
-    private static void write(GuineaHours g, int t, String s) {
-        g.text(t, s.length());
-        for (int i = 0; i < s.length(); i++) {
-            g.put(t, i, s.charAt(i));
-        }
-    }
-
-    private static GuineaHours in(String s) {
-        GuineaHours g = new GuineaHours();
-        write(g, 0, s);
-        g.town(0);
-        return g;
-    }
-
-    private static void fill(GuineaHours g, int r, int... values) {
-        g.row(r, values.length);
-        for (int i = 0; i < values.length; i++) {
-            g.lay(r, i, values[i]);
-        }
-    }
-
-    private static void rowIs(GuineaHours g, int r, int... values) {
-        for (int i = 0; i < values.length; i++) {
-            tells(g, "at(" + r + ", " + i + ")", g.at(r, i), 1, values[i]);
-        }
-        due("at behind the end", g.at(r, values.length), FINDING);
+        end();
     }
 
     private static void newObject() {
-        promise = 1;
+        of(1);
         GuineaHours g = new GuineaHours();
         int[] counts = {0, 0, NONE, 0, 0, 0, 0, 0};
         for (int what = 0; what < 8; what++) {
@@ -130,7 +59,7 @@ public final class PromisesTest {
 
     private static void rows() {
         GuineaHours g = new GuineaHours();
-        promise = 2;
+        of(2);
         due("row(0, 0)", g.row(0, 0), 0);
         due("row(5, 40)", g.row(5, 40), 40);
         due("row(6, 1)", g.row(6, 1), BAD);
@@ -143,7 +72,7 @@ public final class PromisesTest {
         g.lay(5, 39, 8);
         due("row(5, 40) again", g.row(5, 40), 40);
         tells(g, "at(5, 39)", g.at(5, 39), 1, 0);
-        promise = 3;
+        of(3);
         g.row(1, 3);
         tells(g, "lay(1, 2, 7)", g.lay(1, 2, 7), 1, 0);
         tells(g, "lay(1, 2, MIN)", g.lay(1, 2, MIN), 1, 7);
@@ -154,14 +83,14 @@ public final class PromisesTest {
         due("lay(6, 0, 1)", g.lay(6, 0, 1), BAD);
         due("lay(-1, 0, 1)", g.lay(-1, 0, 1), BAD);
         due("asked() stays", g.asked(), MIN);
-        promise = 4;
+        of(4);
         tells(g, "at(1, 2)", g.at(1, 2), 1, 5);
         tells(g, "at(1, 0)", g.at(1, 0), 1, 0);
         finds(g, "at(1, 3)", g.at(1, 3), BEYOND);
         finds(g, "at(0, 0) of an empty ROW", g.at(0, 0), BEYOND);
         finds(g, "at(2, 0)", g.at(2, 0), NOTHING);
         due("at(6, 0)", g.at(6, 0), BAD);
-        promise = 5;
+        of(5);
         due("tear(1)", g.tear(1), 1);
         finds(g, "at(1, 0)", g.at(1, 0), NOTHING);
         finds(g, "tear(1)", g.tear(1), NOTHING);
@@ -171,7 +100,7 @@ public final class PromisesTest {
     }
 
     private static void copies() {
-        promise = 6;
+        of(6);
         GuineaHours g = new GuineaHours();
         fill(g, 0, 1, 2, 3, 4, 5);
         fill(g, 1, 9, 9);
@@ -203,7 +132,7 @@ public final class PromisesTest {
     }
 
     private static void means() {
-        promise = 7;
+        of(7);
         GuineaHours g = new GuineaHours();
         fill(g, 0, 5, 2);
         tells(g, "mean of 5, 2", g.mean(0), 1, 3);
@@ -222,14 +151,14 @@ public final class PromisesTest {
 
     private static void texts() {
         GuineaHours g = new GuineaHours();
-        promise = 8;
+        of(8);
         due("text(0, 80)", g.text(0, 80), 80);
         due("text(3, 0)", g.text(3, 0), 0);
         due("text(0, 81)", g.text(0, 81), BAD);
         due("text(4, 1)", g.text(4, 1), BAD);
         due("text(-1, -1)", g.text(-1, -1), BAD);
         finds(g, "text(0, -1)", g.text(0, -1), SIZE);
-        promise = 9;
+        of(9);
         due("put(0, 79, 200)", g.put(0, 79, 200), 1032);
         due("put(0, 79, -129)", g.put(0, 79, -129), 944);
         due("put(0, 79, 0)", g.put(0, 79, 0), 1127);
@@ -244,15 +173,8 @@ public final class PromisesTest {
         due("blanks anew", g.put(0, 79, 0), 1032);
     }
 
-    private static void faultIs(String s, int want) {
-        GuineaHours g = new GuineaHours();
-        write(g, 2, s);
-        due("fault of '" + s + "'", g.fault(2), want);
-        due("town of '" + s + "' answers STATE", g.town(2) == STATE ? 1 : 0, want == NONE ? 0 : 1);
-    }
-
     private static void faults() {
-        promise = 10;
+        of(10);
         faultIs("", 0);
         faultIs("   ", 3);
         faultIs("h", 1);
@@ -298,7 +220,7 @@ public final class PromisesTest {
     }
 
     private static void towns() {
-        promise = 11;
+        of(11);
         GuineaHours g = in(SMALL);
         due("count(0)", g.count(0), 3);
         due("count(1)", g.count(1), 2);
@@ -333,7 +255,7 @@ public final class PromisesTest {
 
     private static void people() {
         GuineaHours g = in(KINDS);
-        promise = 12;
+        of(12);
         int[] fees = {1, 2, 0, 3, 1, 2, 4};
         int[] kinds = {0, 1, 2, 3, 4, 5, 0};
         int[] often = {3, 3, 3, 4, 3, 5, 3};
@@ -348,7 +270,7 @@ public final class PromisesTest {
         due("person(-1, 0)", g.person(-1, 0), BAD);
         due("person(0, 3)", g.person(0, 3), BAD);
         due("person(0, -1)", g.person(0, -1), BAD);
-        promise = 13;
+        of(13);
         tells(g, "place(0, 3)", g.place(0, 3), 1, 2);
         tells(g, "place(3, 3)", g.place(3, 3), 1, NONE);
         tells(g, "place(5, 0)", g.place(5, 0), 1, 1);
@@ -359,7 +281,7 @@ public final class PromisesTest {
     }
 
     private static void marks() {
-        promise = 14;
+        of(14);
         GuineaHours g = in(KINDS);
         due("PROUD", g.mark(1, 1), 1);
         due("SHY", g.mark(2, 2), 1);
@@ -385,7 +307,7 @@ public final class PromisesTest {
     }
 
     private static void laws() {
-        promise = 15;
+        of(15);
         GuineaHours g = new GuineaHours();
         due("times(5)", g.times(5), 3);
         due("times(6)", g.times(6), BAD);
@@ -399,7 +321,7 @@ public final class PromisesTest {
         due("not once more by TIMES 1", g.can(), 0b1100);
         g.times(2);
         due("once more by TIMES 2", g.can(), 0b1101);
-        promise = 16;
+        of(16);
         due("back(1)", g.back(1), 0);
         due("back(2)", g.back(2), BAD);
         due("back(-1)", g.back(-1), BAD);
@@ -409,7 +331,7 @@ public final class PromisesTest {
     }
 
     private static void mayGive() {
-        promise = 17;
+        of(17);
         GuineaHours g = in(KINDS);
         due("may(0, 0)", g.may(0, 0), 0b1011010);
         due("may(2, 0): a PROUD one takes it from no greater number", g.may(2, 0), 0b1011001);
@@ -442,7 +364,7 @@ public final class PromisesTest {
     }
 
     private static void begins() {
-        promise = 18;
+        of(18);
         GuineaHours g = new GuineaHours();
         due("without HOURS", g.begin(0), BAD);
         g = in(SMALL);
@@ -460,7 +382,7 @@ public final class PromisesTest {
     }
 
     private static void gives() {
-        promise = 19;
+        of(19);
         GuineaHours g = in(SMALL);
         due("no DAY", g.give(0), STATE);
         due("BAD ahead of STATE", g.give(3), BAD);
@@ -491,7 +413,7 @@ public final class PromisesTest {
 
     private static void days() {
         GuineaHours g = in(CROWD);
-        promise = 20;
+        of(20);
         due("no DAY", g.undo(), STATE);
         g.begin(0);
         due("none given", g.undo(), STATE);
@@ -500,7 +422,7 @@ public final class PromisesTest {
         due("undo()", g.undo(), 1);
         due("undo() again", g.undo(), 0);
         due("and again", g.undo(), STATE);
-        promise = 21;
+        of(21);
         tells(g, "now()", g.now(), 0, 0);
         g.give(3);
         tells(g, "now() in HOUR 1", g.now(), 3, 1);
@@ -508,7 +430,7 @@ public final class PromisesTest {
         g.give(1);
         tells(g, "now() at MIDNIGHT", g.now(), 1, 3);
         due("no DAY", in(CROWD).now(), STATE);
-        promise = 22;
+        of(22);
         due("often(0)", g.often(0), 2);
         due("often(2)", g.often(2), 0);
         due("often(1)", g.often(1), 1);
@@ -518,7 +440,7 @@ public final class PromisesTest {
         due("often(1), undone", g.often(1), 0);
         due("no DAY", in(CROWD).often(0), STATE);
         due("BAD ahead of STATE", in(CROWD).often(4), BAD);
-        promise = 23;
+        of(23);
         due("can()", g.can(), 0b1110);
         g.back(1);
         due("can() by BACK", g.can(), 0b0110);
@@ -528,7 +450,7 @@ public final class PromisesTest {
     }
 
     private static void goings() {
-        promise = 24;
+        of(24);
         GuineaHours g = in(SMALL);
         due("no DAY", g.ends(), STATE);
         g.begin(0);
@@ -553,7 +475,7 @@ public final class PromisesTest {
 
     private static void keptDays() {
         GuineaHours g = in(CROWD);
-        promise = 25;
+        of(25);
         due("no DAY", g.keep(0), STATE);
         due("BAD ahead of STATE", g.keep(3), BAD);
         g.begin(0);
@@ -566,7 +488,7 @@ public final class PromisesTest {
         g.give(2);
         due("keep(2)", g.keep(2), 2);
         due("count(5)", g.count(5), 2);
-        promise = 26;
+        of(26);
         g.give(3);
         g.times(4);
         g.back(0);
@@ -593,7 +515,7 @@ public final class PromisesTest {
     }
 
     private static void judges() {
-        promise = 27;
+        of(27);
         GuineaHours g = new GuineaHours();
         due("STATE ahead of NOTHING", g.judge(0), STATE);
         due("BAD ahead of STATE", g.judge(6), BAD);
@@ -632,7 +554,7 @@ public final class PromisesTest {
 
     private static void waysOfHands() {
         GuineaHours g = in(SMALL);
-        promise = 28;
+        of(28);
         due("ways(0, 0)", g.ways(0, 0), 1);
         due("ways(0, 1)", g.ways(0, 1), 0);
         due("ways(2, 1)", g.ways(2, 1), 1);
@@ -649,7 +571,7 @@ public final class PromisesTest {
         g.back(1);
         due("by BACK", g.ways(0, 1), 2);
         due("to the same by BACK", g.ways(2, 2), 6);
-        promise = 29;
+        of(29);
         due("way(0, 1, 3)", g.way(0, 1, 3), 1);
         rowIs(g, 3, 0, 2, 3, 1);
         g.back(0);
@@ -669,7 +591,7 @@ public final class PromisesTest {
 
     private static void barsAndLeast() {
         GuineaHours g = in(SMALL);
-        promise = 30;
+        of(30);
         due("bars(0, 0)", g.bars(0, 0), 0b010);
         due("bars(2, 1)", g.bars(2, 1), 0b001);
         due("without any ROW", g.bars(0, 1), 0b100);
@@ -678,7 +600,7 @@ public final class PromisesTest {
         due("bars(0, -1)", g.bars(0, -1), BAD);
         due("nobody bars it", in(CROWD).bars(0, 1), 0);
         due("one is in each ROW, not in one HOUR", in("h3 m00-- m0--0 m0000 m0000").bars(0, 1), 0b1100);
-        promise = 31;
+        of(31);
         due("least(0, 0)", g.least(0, 0), 2);
         due("least(2, 1)", g.least(2, 1), 1);
         due("least(0, 1)", g.least(0, 1), NONE);
@@ -697,7 +619,7 @@ public final class PromisesTest {
 
     private static void worths() {
         GuineaHours g = in(SMALL);
-        promise = 32;
+        of(32);
         tells(g, "MIDNIGHT", g.worth(0, 2), 9, NONE);
         tells(g, "worth(0, 1)", g.worth(0, 1), 8, 1);
         tells(g, "nobody", g.worth(2, 1), 0, NONE);
@@ -714,7 +636,7 @@ public final class PromisesTest {
         tells(g, "0 at least", g.worth(1, 0), 0, 0);
         g = in("h1 m00 m30 m30");
         tells(g, "the first of alike ones", g.worth(0, 0), 6, 1);
-        promise = 33;
+        of(33);
         g = in(SMALL);
         tells(g, "best(2)", g.best(2), 0, 9);
         tells(g, "best(1)", g.best(1), 0, 8);
@@ -730,7 +652,7 @@ public final class PromisesTest {
 
     private static void sets() {
         GuineaHours g = in(SMALL);
-        promise = 34;
+        of(34);
         tells(g, "keeps(3, 0)", g.keeps(3, 0), 2, 3);
         tells(g, "keeps(5, 0)", g.keeps(5, 0), 1, 5);
         tells(g, "keeps(7, 0)", g.keeps(7, 0), 2, 7);
@@ -746,7 +668,7 @@ public final class PromisesTest {
         due("BAD ahead of NONE", g.keeps(0, -1), BAD);
         due("without a TOWN", new GuineaHours().keeps(0, 0), NONE);
         due("a set without PEOPLE", new GuineaHours().keeps(1, 0), BAD);
-        promise = 35;
+        of(35);
         tells(g, "fewest(0)", g.fewest(0), 2, 3);
         tells(g, "fewest(1)", g.fewest(1), 2, 3);
         tells(g, "fewest(2)", g.fewest(2), 1, 1);
@@ -764,7 +686,7 @@ public final class PromisesTest {
     }
 
     private static void shares() {
-        promise = 36;
+        of(36);
         GuineaHours g = in(SMALL);
         finds(g, "missing", g.leaves(0, 0), NOTHING);
         fill(g, 0, 5, 4, 0);
@@ -798,7 +720,7 @@ public final class PromisesTest {
 
     private static void sightings() {
         GuineaHours g = in(SMALL);
-        promise = 37;
+        of(37);
         due("no TOWN", new GuineaHours().sight(0, 0, 1), BAD);
         due("sight(0, 0, 1)", g.sight(0, 0, 1), 0);
         due("sight(2, 1, 0) at MIDNIGHT", g.sight(2, 1, 0), 1);
@@ -813,7 +735,7 @@ public final class PromisesTest {
         due("a ninth one", g.sight(1, 1, 1), FULL);
         due("BAD ahead of FULL", g.sight(1, 3, 1), BAD);
         due("count(4)", g.count(4), 8);
-        promise = 38;
+        of(38);
         due("forget(9)", g.forget(9), BAD);
         due("none from number 8 on", g.forget(8), 0);
         due("forget(-1)", g.forget(-1), BAD);
@@ -830,7 +752,7 @@ public final class PromisesTest {
 
     private static void fitting() {
         GuineaHours g = in(SMALL);
-        promise = 39;
+        of(39);
         due("no HOURS", new GuineaHours().fits(), STATE);
         GuineaHours empty = in("h2");
         tells(empty, "no PEOPLE", empty.fits(), 0, 0);
@@ -853,7 +775,7 @@ public final class PromisesTest {
         tells(g, "not with 1 at first", g.fits(), 1, 4);
         g.sight(0, 2, 0);
         tells(g, "none fits", g.fits(), 0, 0);
-        promise = 40;
+        of(40);
         finds(g, "none fits", g.where(0), NOUGHT);
         g.forget(1);
         tells(g, "where(0)", g.where(0), 6, NONE);
@@ -864,7 +786,7 @@ public final class PromisesTest {
         due("no HOURS", new GuineaHours().where(0), STATE);
         due("BAD ahead of STATE", new GuineaHours().where(1), BAD);
         due("no PEOPLE", in("h1").where(0), FINDING);
-        promise = 41;
+        of(41);
         tells(g, "ask(0)", g.ask(0), 1, 1);
         tells(g, "whomever one asks", g.ask(1), 0, 2);
         g.forget(0);
@@ -887,7 +809,7 @@ public final class PromisesTest {
 
     private static void chance() {
         GuineaHours g = in(SMALL);
-        promise = 42;
+        of(42);
         fraction(g, "odds(0, 0, 0)", g.odds(0, 0, 0), 1, 1, 2);
         fraction(g, "odds(2, 0, 1)", g.odds(2, 0, 1), 1, 1, 1);
         fraction(g, "odds(2, 0, 2)", g.odds(2, 0, 2), 1, 0, 1);
@@ -897,7 +819,7 @@ public final class PromisesTest {
         due("odds(0, 3, 0)", g.odds(0, 3, 0), BAD);
         due("odds(0, 0, -1)", g.odds(0, 0, -1), BAD);
         fraction(g, "they stay", g.odds(0, -1, 0), BAD, 0, 1);
-        promise = 43;
+        of(43);
         fraction(g, "lost(0, 0)", g.lost(0, 0), 1, 1, 2);
         fraction(g, "lost(2, 0)", g.lost(2, 0), 1, 0, 1);
         fraction(g, "lost(2, 1)", g.lost(2, 1), 1, 1, 1);
@@ -906,7 +828,7 @@ public final class PromisesTest {
         due("lost(0, 3)", g.lost(0, 3), BAD);
         due("lost(0, -1)", g.lost(0, -1), BAD);
         g = in("h5 m000000 m000000 m000000 m000000 m000000 m000000 m000000");
-        promise = 42;
+        of(42);
         g.times(1);
         g.back(1);
         fraction(g, "of seven, TIMES, BACK aside", g.odds(0, 0, 1), 1, 1111, 7776);
@@ -914,7 +836,7 @@ public final class PromisesTest {
     }
 
     private static void sending() {
-        promise = 44;
+        of(44);
         GuineaHours g = in(SMALL);
         fraction(g, "send(0, 0, 0)", g.send(0, 0, 0), 1, 1, 1);
         fraction(g, "the first of alike ones", g.send(0, 0, 2), 1, 0, 1);
@@ -934,7 +856,7 @@ public final class PromisesTest {
     }
 
     private static void twoGuineas() {
-        promise = 45;
+        of(45);
         GuineaHours g = in("h2 m000 m000 m011 m011");
         due("two(0, 2)", g.two(0, 2), 2);
         due("at one place", g.two(0, 1), 0);
@@ -961,7 +883,7 @@ public final class PromisesTest {
     }
 
     private static void byLots() {
-        promise = 46;
+        of(46);
         GuineaHours g = in(CROWD);
         due("lots(0, 1)", g.lots(0, 1), 3);
         tells(g, "now()", g.now(), 1, 3);
@@ -997,7 +919,7 @@ public final class PromisesTest {
     }
 
     private static void told() {
-        promise = 47;
+        of(47);
         GuineaHours g = in(SMALL);
         fill(g, 0, 6);
         g.at(0, 0);
@@ -1013,19 +935,19 @@ public final class PromisesTest {
         g.keeps(0, 0);
         due("asked() stays", g.asked(), 6);
         due("asked() again", g.asked(), 6);
-        promise = 48;
+        of(48);
         due("upper()", g.upper(), 1);
-        promise = 49;
+        of(49);
         due("lower()", g.lower(), 2);
         g.town(0);
         due("lower() stays", g.lower(), 2);
-        promise = 51;
+        of(51);
         due("finding()", g.finding(), BEYOND);
         g.at(1, 0);
         due("finding()", g.finding(), NOTHING);
         g.at(6, 0);
         due("finding() stays", g.finding(), NOTHING);
-        promise = 52;
+        of(52);
         g.at(1, 0);
         due("findings(1)", g.findings(NOTHING), 2);
         due("findings(2)", g.findings(BEYOND), 1);
@@ -1037,7 +959,7 @@ public final class PromisesTest {
     }
 
     private static void counts() {
-        promise = 50;
+        of(50);
         GuineaHours g = in(KINDS);
         g.row(0, 0);
         g.row(3, 1);
@@ -1056,16 +978,8 @@ public final class PromisesTest {
         due("count(-1)", g.count(-1), BAD);
     }
 
-    private static long digestOf(int... values) {
-        long h = 17;
-        for (int v : values) {
-            h = 31 * h + v;
-        }
-        return h;
-    }
-
     private static void digests() {
-        promise = 53;
+        of(53);
         GuineaHours g = new GuineaHours();
         due("a new object", g.digest(), digestOf(0, 0, NONE, 0, 0, 0, 0, 0, 3, 0,
             -1, -1, -1, -1, -1, -1, -1, -1, -1, -1, -1, -1, -1));
@@ -1097,7 +1011,7 @@ public final class PromisesTest {
 
     /** No call throws, whatever comes, with and without a TOWN. */
     private static void unbrokenByAnything() {
-        promise = 0;
+        of(0);
         int[] odd = {MIN, -9, -1, 0, 1, 5, 7, 40, 80, 1 << 30, MAX};
         String[] places = {"", "h1", "h5", "h1 g00", KINDS, CROWD};
         for (String place : places) {
