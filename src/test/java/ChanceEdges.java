@@ -78,6 +78,8 @@ final class ChanceEdges extends Check {
         fraction(g, "1 of 1", g.send(0, 0, 3), 1, 1, 1);
         fraction(g, "1 of 2, not the first", g.send(0, 0, 5), 2, 1, 2);
         fraction(g, "from another one", g.send(1, 0, 4), 2, 1, 2);
+        GuineaHours small = in(SMALL);
+        fraction(small, "to 0", small.send(1, 0, 1), 0, 1, 1);
         GuineaHours back = in("h2 m000 m00- m000 m0-0");
         fraction(back, "to the same", back.send(0, 0, 0), 2, 1, 2);
         fraction(back, "in the last HOUR, whom it is for", back.send(0, 1, 3), 3, 1, 1);
@@ -138,13 +140,22 @@ final class ChanceEdges extends Check {
         due("only one can be given further", in("h2 m000 m000 m011 m01-").two(0, 2), 1);
         g = in("h3 m0010 m0001 m0220 m0223 m00-1");
         due("one is alone in HOUR 1", g.two(0, 2), 1);
+        g = in("h2 m000 m00- m011 m01- m050 m051");
+        due("who gave it has it no longer", g.two(0, 2), 1);
+        g = in("h2 m000 m00- m011 m011 m053 m053");
+        due("others have none", g.two(0, 2), 1);
+        g = in("h2 m000 m000 m011 m011 m012 m051");
+        due("the last one can't give it further, one ahead can", g.two(0, 2), 2);
+        g = in("h4 m00-41 m00040 m00131 m01-3- m0112- m0102- m0--20");
+        due("one has it in two ways, by the first of which it goes on", g.two(0, 3), 4);
+        g = in(SMALL);
         of(45, "BAD: also alike.");
-        due("alike", g.two(4, 4), BAD);
-        for (int x : new int[] {-1, 5, MIN, MAX}) {
+        due("alike", g.two(2, 2), BAD);
+        for (int x : NO_ONES) {
             due("two(" + x + ", 0)", g.two(x, 0), BAD);
             due("two(0, " + x + ")", g.two(0, x), BAD);
         }
-        due("alike, and none", g.two(5, 5), BAD);
+        due("alike, and none", g.two(3, 3), BAD);
         due("without a TOWN", new GuineaHours().two(0, 1), BAD);
     }
 

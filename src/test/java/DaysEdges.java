@@ -270,6 +270,9 @@ final class DaysEdges extends Check {
         due("HOUR 0", g.on(2), 0);
         due("no giving", g.undo(), STATE);
         due("TIMES as kept", g.times(3), 1);
+        tells(g, "by TIMES 3", g.fits(), 108, 15);
+        g.on(2);
+        tells(g, "ROWS of HANDS by TIMES as kept", g.fits(), 24, 15);
         of(26, "BAD;");
         for (int k : NO_KEPT) {
             due("on(" + k + ")", g.on(k), BAD);

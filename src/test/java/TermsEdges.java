@@ -278,6 +278,14 @@ final class TermsEdges extends Check {
         g.text(0, 80);
         g.put(0, 79, 'h');
         due("of 80 bytes", g.fault(0), 80);
+        int[] ahead = {'h', '5', 'm', '0', '1', '2', '3', '4'};
+        for (int many = 1; many <= ahead.length; many++) {
+            g.text(0, 80);
+            for (int k = 0; k < many; k++) {
+                g.put(0, 80 - many + k, ahead[k]);
+            }
+            due("of 80 bytes, the last " + many, g.fault(0), many == 2 ? NONE : 80);
+        }
         of(0, "or there are blanks alone).");
         faultIs("", 0);
         faultIs(" ", 1);
