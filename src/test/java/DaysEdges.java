@@ -190,6 +190,10 @@ final class DaysEdges extends Check {
         tells(g, "from the last HOUR on", g.ends(), 2, 6);
         g.give(1);
         tells(g, "at MIDNIGHT: one, of none", g.ends(), 1, 2);
+        g = in("h1 m00 m00");
+        g.begin(0);
+        g.give(1);
+        tells(g, "at MIDNIGHT of one HOUR", g.ends(), 1, 2);
         g = in("h2 m00- m001 m0-1 m000");
         g.begin(0);
         tells(g, "not where it can't go on", g.ends(), 1, 4);

@@ -360,6 +360,13 @@ final class RowsEdges extends Check {
         due("seven", in(SEVEN).count(0), 7);
         write(g, 1, SEVEN);
         due("seven", g.town(1), 7);
+        write(g, 1, "h2 m000 m000");
+        g.town(1);
+        due("nothing of the greater one is left", g.may(0, 1), 2);
+        tells(g, "no HOUR more", g.worth(0, 2), 9, NONE);
+        tells(g, "nobody more", g.fits(), 2, 3);
+        write(g, 1, SEVEN);
+        g.town(1);
         of(11, "BAD;");
         for (int t : NO_TEXTS) {
             due("town(" + t + ")", g.town(t), BAD);

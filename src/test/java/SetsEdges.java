@@ -43,6 +43,10 @@ final class SetsEdges extends Check {
         tells(g, "nobody", g.worth(2, 1), 0, NONE);
         g.worth(0, 0);
         tells(g, "MIDNIGHT", g.worth(0, 2), 9, NONE);
+        GuineaHours seven = in(SEVEN);
+        tells(seven, "the first of seven, MIDNIGHT", seven.worth(0, 5), 9, NONE);
+        tells(seven, "the last of seven, MIDNIGHT", seven.worth(6, 5), 9, NONE);
+        tells(seven, "the last of seven", seven.worth(6, 0), 9, 0);
         of(32, "BAD.");
         g.worth(0, 0);
         for (int h : NO_MOMENTS) {
@@ -61,6 +65,10 @@ final class SetsEdges extends Check {
         tells(g, "in the last HOUR", g.best(1), 0, 4);
         g = in("h1 m01 m10 m20 m30");
         tells(g, "not the first one", g.best(0), 2, 8);
+        g = in("h1 m01 m20 m10 m40");
+        tells(g, "the second one", g.best(0), 1, 8);
+        g = in("h1 m01 m02 m00 m50");
+        tells(g, "the last one", g.best(0), 3, 9);
         of(33, "the first);");
         tells(g, "MIDNIGHT", g.best(1), 0, 9);
         GuineaHours apart = in("h1 m00 m01 m02");
