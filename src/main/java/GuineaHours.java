@@ -1241,6 +1241,9 @@ public final class GuineaHours {
         }
 
         private void untake(int x) {
+            if (!ground.isOne(x)) {
+                return;
+            }
             had[x]--;
             if (had[x] < limits[x]) {
                 full &= ~(1 << x);
@@ -1283,25 +1286,29 @@ public final class GuineaHours {
             for (int x = 0; x < ground.people && !(firstOnly && total > 0); x++) {
                 if ((within[0] >> x & 1) != 0) {
                     take(0, x);
-                    total += rowsWith(0);
+                    int goings = rowsBehind(this, 0, 1 << x);
                     untake(x);
+                    addTo(0, x, goings);
+                    total += goings;
                 }
             }
         }
 
         /** Counts goings on from the hand of an HOUR, those ahead of it being taken already. */
         int countOn(int hour) {
-            trim();
-            return rowsWith(hour);
-        }
-
-        private int rowsWith(int hour) {
             if (hour < 0 || hour >= MOST_HANDS) {
                 return 0;
             }
-            int sum = rowsBehind(this, hour, 1 << hands[hour]);
-            tally[hour * MOST_PEOPLE + hands[hour]] += sum;
-            return sum;
+            trim();
+            int goings = rowsBehind(this, hour, 1 << hands[hour]);
+            addTo(hour, hands[hour], goings);
+            return goings;
+        }
+
+        private void addTo(int hour, int x, int goings) {
+            if (hour >= 0 && hour < MOST_HANDS && ground.isOne(x)) {
+                tally[hour * MOST_PEOPLE + x] += goings;
+            }
         }
 
         private static int rowsBehind(Walk w, int hour, int seen) {
@@ -1318,7 +1325,7 @@ public final class GuineaHours {
                     w.take(hour + 1, y);
                     int more = rowsBehind(w, hour + 1, seen | 1 << y);
                     w.untake(y);
-                    w.tally[(hour + 1) * MOST_PEOPLE + y] += more;
+                    w.addTo(hour + 1, y, more);
                     sum += more;
                 }
                 if (w.firstOnly && sum > 0) {
